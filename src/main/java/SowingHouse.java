@@ -37,14 +37,13 @@ public final class SowingHouse {
     private static final int UNFED = 4;
     private static final int OVER = 5;
 
-    private final Tape tape = new Tape();
     private final Rules rules = new Rules();
     private final Ground ground = new Ground(rules);
     private final Sower sower = new Sower(rules, ground);
     private final Scene now = new Scene();
     private final Scene other = new Scene();
     private final Past past = new Past();
-    private final Reader reader = new Reader(tape);
+    private final Reader reader = new Reader();
     private final Solver solver = new Solver(rules, ground, sower);
     private final Walker walker = new Walker(sower, solver);
     private final Explorer explorer = new Explorer(rules, sower);
@@ -63,23 +62,23 @@ public final class SowingHouse {
     // ---- the board
 
     public int feed(int a, int b, int c, int d, int e) {
-        if (tape.size + 20 > TAPE) {
+        if (reader.size + 20 > TAPE) {
             return NONE;
         }
-        tape.append(a);
-        tape.append(b);
-        tape.append(c);
-        tape.append(d);
-        tape.append(e);
-        return tape.size;
+        reader.append(a);
+        reader.append(b);
+        reader.append(c);
+        reader.append(d);
+        reader.append(e);
+        return reader.size;
     }
 
     public int board(int n) throws IllegalArgumentException {
-        if (n < 0 || n > tape.size) {
+        if (n < 0 || n > reader.size) {
             throw new IllegalArgumentException("not so many bytes on the tape");
         }
         reader.read(n);
-        tape.size = 0;
+        reader.size = 0;
         if (reader.fault != 0) {
             return -10 - reader.fault;
         }
@@ -169,7 +168,7 @@ public final class SowingHouse {
     }
 
     public boolean over() {
-        return sower.choices(now) == 0;
+        return sower.isOver(now);
     }
 
     public int score() {
@@ -182,18 +181,19 @@ public final class SowingHouse {
             throw new IllegalArgumentException("no such what");
         }
         other.copy(now);
-        int place = 0;
+        int failing = NONE;
         int why = 0;
-        while (place < from.many && why == 0) {
-            why = sower.reason(other, from.numbers[place]);
+        for (int i = 0; i < from.many && failing == NONE; i++) {
+            why = sower.reason(other, from.numbers[i]);
             if (why == 0) {
-                sower.sow(other, (int) from.numbers[place]);
-                place++;
+                sower.sow(other, (int) from.numbers[i]);
+            } else {
+                failing = i;
             }
         }
         switch (what) {
             case 0:
-                return why == 0 ? NONE : place;
+                return failing;
             case 1:
                 return why;
             case 2:
@@ -259,10 +259,7 @@ public final class SowingHouse {
     }
 
     public int worth(int p) {
-        if (sower.reason(now, p) != 0 || !solver.reach(now.inPits())) {
-            return SPENT;
-        }
-        return solver.worthBy(now, p);
+        return sower.isOwn(now, p) && solver.reach(now.inPits()) ? solver.worthBy(now, p) : SPENT;
     }
 
     public int valueOf(int side, int s, int k) throws NoSuchElementException, IllegalArgumentException, IllegalStateException {
@@ -290,8 +287,7 @@ public final class SowingHouse {
         laySolved(side, s, k);
         int first = side * rules.perSide;
         if (what >= 10 && what < 10 + rules.perSide) {
-            int p = first + what - 10;
-            return sower.mayBe(other, p) ? solver.worthBy(other, p) : SPENT;
+            return solver.worthBy(other, first + what - 10);
         }
         switch (what) {
             case 0:
@@ -404,7 +400,7 @@ public final class SowingHouse {
         int can = sower.choices(now);
         int found = 0;
         for (int p = 0; p < PITS; p++) {
-            if ((can >>> p & 1) == 1 && isNotable(p, what)) {
+            if (has(can, p) && isNotable(p, what)) {
                 found |= 1 << p;
             }
         }
@@ -491,13 +487,17 @@ public final class SowingHouse {
             case 5:
                 return past.undone;
             case 6:
-                return tape.size;
+                return reader.size;
             default:
                 return NONE;
         }
     }
 
     // ---- what several calls need
+
+    private static boolean has(int bits, int p) {
+        return (bits >>> p & 1) == 1;
+    }
 
     private static void needSide(int side) {
         if (side < 0 || side > 1) {
@@ -527,7 +527,9 @@ public final class SowingHouse {
     private void laySolved(int side, int s, int k) {
         needSide(side);
         needSeeds(s);
-        needSolved(s);
+        if (!solver.reach(s)) {
+            throw new IllegalStateException("too many positions");
+        }
         needPosition(k, ground.positionsOf(s));
         ground.lay(other, side, s, k);
     }
@@ -585,20 +587,7 @@ public final class SowingHouse {
             case 1:
                 return walker.many;
             default:
-                return sower.choices(walker.at) == 0 ? 1 : 0;
-        }
-    }
-
-    /** The bytes that were fed. */
-    private static final class Tape {
-        final int[] bytes = new int[TAPE];
-        int size;
-
-        void append(int four) {
-            for (int shift = 24; shift >= 0 && size < TAPE; shift -= 8) {
-                bytes[size] = four >>> shift & 255;
-                size++;
-            }
+                return sower.isOver(walker.at) ? 1 : 0;
         }
     }
 
@@ -683,6 +672,17 @@ public final class SowingHouse {
             return sum;
         }
 
+        /** The pits (bits) with seeds of who is to move. */
+        int filled(int perSide) {
+            int bits = 0;
+            for (int p = side * perSide; p < (side + 1) * perSide; p++) {
+                if (cells[p] > 0) {
+                    bits |= 1 << p;
+                }
+            }
+            return bits;
+        }
+
         int inRow(int whose, int perSide) {
             int sum = 0;
             for (int p = whose * perSide; p < (whose + 1) * perSide; p++) {
@@ -692,7 +692,7 @@ public final class SowingHouse {
         }
     }
 
-    /** Reads a board's text from the tape, token by token, up to its first fault. */
+    /** The tape, and how a board's text is read from it, token by token, up to its first fault. */
     private static final class Reader {
         private static final int END = 0;
         private static final int WORD = 1;
@@ -704,16 +704,21 @@ public final class SowingHouse {
         final Scene scene = new Scene();
         int fault;
         int place = NONE;
+        /** How many bytes the tape has. */
+        int size;
 
-        private final Tape tape;
+        private final int[] tape = new int[TAPE];
         private int length;
         private int kind;
         private int from;
         private int until;
         private int number;
 
-        Reader(Tape tape) {
-            this.tape = tape;
+        void append(int four) {
+            for (int shift = 24; shift >= 0 && size < TAPE; shift -= 8) {
+                tape[size] = four >>> shift & 255;
+                size++;
+            }
         }
 
         void read(int n) {
@@ -872,7 +877,7 @@ public final class SowingHouse {
                 return false;
             }
             for (int i = 0; i < word.length(); i++) {
-                if (tape.bytes[from + i] != word.charAt(i)) {
+                if (tape[from + i] != word.charAt(i)) {
                     return false;
                 }
             }
@@ -881,7 +886,7 @@ public final class SowingHouse {
 
         private void step() {
             from = until;
-            while (from < length && (tape.bytes[from] == 10 || tape.bytes[from] == 32)) {
+            while (from < length && (tape[from] == 10 || tape[from] == 32)) {
                 from++;
             }
             until = from;
@@ -891,7 +896,7 @@ public final class SowingHouse {
                 stepNumber();
             } else if (isLetter(from)) {
                 stepWord();
-            } else if (tape.bytes[from] == ';') {
+            } else if (tape[from] == ';') {
                 kind = SIGN;
                 until++;
             } else {
@@ -904,7 +909,7 @@ public final class SowingHouse {
             kind = NUMBER;
             number = 0;
             while (until < length && until - from < 4 && isDigit(until)) {
-                number = 10 * number + tape.bytes[until] - '0';
+                number = 10 * number + tape[until] - '0';
                 until++;
             }
             if (until - from > 3) {
@@ -921,11 +926,11 @@ public final class SowingHouse {
         }
 
         private boolean isDigit(int i) {
-            return tape.bytes[i] >= '0' && tape.bytes[i] <= '9';
+            return tape[i] >= '0' && tape[i] <= '9';
         }
 
         private boolean isLetter(int i) {
-            return tape.bytes[i] >= 'a' && tape.bytes[i] <= 'z';
+            return tape[i] >= 'a' && tape[i] <= 'z';
         }
     }
 
@@ -1077,13 +1082,19 @@ public final class SowingHouse {
         int taken;
         int brought;
 
+        /** Of the scene whose moves were tried latest, by pit as seen: what would come of each, and be brought. */
+        final Scene[] after = new Scene[OWN_PITS];
+        final int[] gains = new int[OWN_PITS];
+
         private final Rules rules;
         private final Ground ground;
-        private final Scene trial = new Scene();
 
         Sower(Rules rules, Ground ground) {
             this.rules = rules;
             this.ground = ground;
+            for (int i = 0; i < OWN_PITS; i++) {
+                after[i] = new Scene();
+            }
         }
 
         boolean isOwn(Scene at, long p) {
@@ -1102,7 +1113,7 @@ public final class SowingHouse {
                 last = scatter(at, start);
                 if (rules.relay == 0 || last >= PITS || at.cells[last] == 1) {
                     rounds = round;
-                    taken = take(at);
+                    taken = last >= PITS ? 0 : isOwn(at, last) ? takeOpposite(at) : takeGrand(at);
                     brought = at.cells[STORE + at.side] - before;
                     at.side = rules.again && last >= PITS ? at.side : 1 - at.side;
                     return true;
@@ -1129,21 +1140,9 @@ public final class SowingHouse {
             return cell;
         }
 
-        private int take(Scene at) {
-            if (rules.take == TAKE_NONE || last >= PITS) {
-                return 0;
-            }
-            int first = at.side * rules.perSide;
-            boolean own = last >= first && last < first + rules.perSide;
-            if (rules.take == TAKE_OPPOSITE) {
-                return own ? takeOpposite(at) : 0;
-            }
-            return own ? 0 : takeGrand(at);
-        }
-
         private int takeOpposite(Scene at) {
             int facing = 2 * rules.perSide - 1 - last;
-            if (at.cells[last] != 1 || at.cells[facing] == 0) {
+            if (rules.take != TAKE_OPPOSITE || at.cells[last] != 1 || at.cells[facing] == 0) {
                 return 0;
             }
             int sum = at.cells[facing] + 1;
@@ -1153,19 +1152,23 @@ public final class SowingHouse {
             return sum;
         }
 
+        /** Seeds are taken backward from the last one on; lacking pits, always empty, are passed over. */
         private int takeGrand(Scene at) {
+            if (rules.take != TAKE_GRAND && rules.take != TAKE_STARVE) {
+                return 0;
+            }
             int first = (1 - at.side) * rules.perSide;
             int sum = 0;
-            int p = last;
-            while (p >= first && (rules.isLacking(p) || at.cells[p] == 2 || at.cells[p] == 3)) {
-                sum += at.cells[p];
-                p--;
+            int end = last;
+            while (end >= first && (rules.isLacking(end) || at.cells[end] == 2 || at.cells[end] == 3)) {
+                sum += at.cells[end];
+                end--;
             }
             if (rules.take == TAKE_STARVE && sum == at.inRow(1 - at.side, rules.perSide)) {
                 return 0;
             }
-            for (int i = p + 1; i <= last; i++) {
-                at.cells[i] = 0;
+            for (int p = end + 1; p <= last; p++) {
+                at.cells[p] = 0;
             }
             at.cells[STORE + at.side] += sum;
             return sum;
@@ -1173,30 +1176,44 @@ public final class SowingHouse {
 
         /** The pits (bits) of moves that can be. */
         int choices(Scene at) {
+            return rules.feeds || ground.longOnes ? tryAll(at) : at.filled(rules.perSide);
+        }
+
+        /** The pits (bits) of moves that can be; all of these are tried. */
+        int tryAll(Scene at) {
             int first = at.side * rules.perSide;
-            boolean asks = rules.feeds || ground.longOnes;
             int can = 0;
             int feeding = 0;
-            for (int p = first; p < first + rules.perSide; p++) {
-                if (at.cells[p] > 0) {
-                    if (!asks) {
-                        can |= 1 << p;
-                    } else if (isShort(at, p)) {
-                        can |= 1 << p;
-                        feeding |= trial.inRow(1 - at.side, rules.perSide) > 0 ? 1 << p : 0;
+            for (int i = 0; i < rules.perSide; i++) {
+                if (at.cells[first + i] == 0) {
+                    continue;
+                }
+                after[i].copy(at);
+                if (sow(after[i], first + i)) {
+                    gains[i] = brought;
+                    can |= 1 << first + i;
+                    if (after[i].inRow(1 - at.side, rules.perSide) > 0) {
+                        feeding |= 1 << first + i;
                     }
                 }
             }
             return rules.feeds && feeding != 0 ? feeding : can;
         }
 
-        private boolean isShort(Scene at, int p) {
-            trial.copy(at);
-            return sow(trial, p);
+        private boolean isLong(Scene at, int i) {
+            after[i].copy(at);
+            return !sow(after[i], at.side * rules.perSide + i);
         }
 
-        boolean mayBe(Scene at, int p) {
-            return (choices(at) >>> p & 1) == 1;
+        /** Who must be fed doesn't matter here: where just such moves are left, they can be. */
+        boolean isOver(Scene at) {
+            int first = at.side * rules.perSide;
+            for (int i = 0; i < rules.perSide; i++) {
+                if (at.cells[first + i] > 0 && !(ground.longOnes && isLong(at, i))) {
+                    return false;
+                }
+            }
+            return true;
         }
 
         /** Why a move can't be; 0. */
@@ -1212,15 +1229,15 @@ public final class SowingHouse {
             if (at.cells[pit] == 0) {
                 return EMPTY;
             }
-            if ((can >>> pit & 1) == 1) {
+            if (has(can, pit)) {
                 return 0;
             }
-            return isShort(at, pit) ? UNFED : LONG;
+            return isLong(at, pit - at.side * rules.perSide) ? LONG : UNFED;
         }
 
         int scoreOf(Scene at) {
             int score = at.cells[STORE] - at.cells[STORE + 1];
-            if (choices(at) != 0) {
+            if (!isOver(at)) {
                 return score;
             }
             return score + at.inRow(0, rules.perSide) - at.inRow(1, rules.perSide);
@@ -1299,7 +1316,6 @@ public final class SowingHouse {
         private final Ground ground;
         private final Sower sower;
         private final Scene from = new Scene();
-        private final Scene next = new Scene();
         private int solvedKey;
         private int solvedTo = NONE;
         /** The rank of what comes of the latest move that was weighed. */
@@ -1327,7 +1343,13 @@ public final class SowingHouse {
                 solvedTo = NONE;
             }
             for (int level = solvedTo + 1; level <= s; level++) {
-                solveLevel(level);
+                int many = ground.positionsOf(level);
+                for (int half = 0; half <= halfOf(1); half++) {
+                    for (int k = 0; k < many; k++) {
+                        readPosition(half, level, k);
+                    }
+                }
+                weighLevel(level);
                 solvedTo = level;
             }
             return true;
@@ -1346,13 +1368,8 @@ public final class SowingHouse {
             return indexOf(at.side, s, ground.numberOf(at, s));
         }
 
-        private void solveLevel(int level) {
-            int many = ground.positionsOf(level);
-            for (int half = 0; half <= halfOf(1); half++) {
-                for (int k = 0; k < many; k++) {
-                    readPosition(half, level, k);
-                }
-            }
+        /** Behind n turns a value is what comes out within n moves; the turn that changed it last is its rank. */
+        private void weighLevel(int level) {
             boolean changed = true;
             for (int turn = 1; changed && turn <= MOST_TURNS; turn++) {
                 changed = false;
@@ -1373,25 +1390,24 @@ public final class SowingHouse {
             linkCounts[slot] = 0;
             values[index] = 0;
             ranks[index] = 0;
-            int can = sower.choices(from);
+            int can = sower.tryAll(from) >>> half * rules.perSide;
             if (can == 0) {
                 values[index] = from.inRow(half, rules.perSide) - from.inRow(1 - half, rules.perSide);
                 ranks[index] = ENDED;
             }
-            for (int p = half * rules.perSide; can >>> p != 0; p++) {
-                if ((can >>> p & 1) == 1) {
-                    readMove(slot, level, p);
+            for (int i = 0; i < rules.perSide; i++) {
+                if (has(can, i)) {
+                    readMove(slot, level, i);
                 }
             }
         }
 
-        private void readMove(int slot, int level, int p) {
-            next.copy(from);
-            sower.sow(next, p);
-            int index = indexAt(next, level - sower.brought);
-            if (sower.brought > 0) {
-                int value = next.side == from.side ? values[index] : -values[index];
-                exits[slot] = Math.max(exits[slot], sower.brought + value);
+        private void readMove(int slot, int level, int i) {
+            int gain = sower.gains[i];
+            int index = indexAt(sower.after[i], level - gain);
+            if (gain > 0) {
+                int value = sower.after[i].side == from.side ? values[index] : -values[index];
+                exits[slot] = Math.max(exits[slot], gain + value);
             } else {
                 links[slot * OWN_PITS + linkCounts[slot]] = index;
                 linkCounts[slot]++;
@@ -1400,13 +1416,15 @@ public final class SowingHouse {
 
         /** All are weighed by the values of the turn before, none of which may change meanwhile. */
         private void weighAll(int half, int level) {
-            int many = ground.positionsOf(level);
-            for (int k = 0; k < many; k++) {
-                int slot = half * LEVEL + k;
+            int end = half * LEVEL + ground.positionsOf(level);
+            for (int slot = half * LEVEL; slot < end; slot++) {
                 int most = exits[slot];
                 int first = slot * OWN_PITS;
-                for (int i = first; i < first + linkCounts[slot]; i++) {
-                    most = Math.max(most, -values[links[i]]);
+                for (int i = first + linkCounts[slot] - 1; i >= first; i--) {
+                    int value = -values[links[i]];
+                    if (value > most) {
+                        most = value;
+                    }
                 }
                 fresh[slot] = most;
             }
@@ -1471,23 +1489,28 @@ public final class SowingHouse {
             }
         }
 
-        /** The worth of a move that can be. */
-        int worthBy(Scene at, int p) {
-            next.copy(at);
-            sower.sow(next, p);
+        /** The worth of the i-th own move of a scene whose moves were tried latest. */
+        private int worthOfTried(Scene at, int i) {
+            Scene next = sower.after[i];
             int index = indexAt(next, next.inPits());
-            rankBehind = sower.brought > 0 ? 0 : rankOf(index);
-            return sower.brought + (next.side == at.side ? values[index] : -values[index]);
+            rankBehind = sower.gains[i] > 0 ? 0 : rankOf(index);
+            return sower.gains[i] + (next.side == at.side ? values[index] : -values[index]);
+        }
+
+        /** The worth of a move; SPENT: it can't be. */
+        int worthBy(Scene at, int p) {
+            return has(sower.tryAll(at), p) ? worthOfTried(at, p - at.side * rules.perSide) : SPENT;
         }
 
         int bestAt(Scene at) {
             int value = valueAt(at);
-            int can = sower.choices(at);
+            int first = at.side * rules.perSide;
+            int can = sower.tryAll(at) >>> first;
             int found = NONE;
             int least = 0;
-            for (int p = 0; p < PITS; p++) {
-                if ((can >>> p & 1) == 1 && worthBy(at, p) == value && (found == NONE || rankBehind < least)) {
-                    found = p;
+            for (int i = 0; i < rules.perSide; i++) {
+                if (has(can, i) && worthOfTried(at, i) == value && (found == NONE || rankBehind < least)) {
+                    found = first + i;
                     least = rankBehind;
                 }
             }
@@ -1496,10 +1519,10 @@ public final class SowingHouse {
 
         int manyBest(Scene at) {
             int value = valueAt(at);
-            int can = sower.choices(at);
+            int can = sower.tryAll(at) >>> at.side * rules.perSide;
             int many = 0;
-            for (int p = 0; p < PITS; p++) {
-                if ((can >>> p & 1) == 1 && worthBy(at, p) == value) {
+            for (int i = 0; i < rules.perSide; i++) {
+                if (has(can, i) && worthOfTried(at, i) == value) {
                     many++;
                 }
             }
@@ -1539,12 +1562,14 @@ public final class SowingHouse {
         void goByBest(Scene from) {
             begin(from);
             marks[0] = solver.markOf(at);
-            int p = solver.bestAt(at);
-            while (p != NONE && many < LINE_MOVES && !ring) {
+            for (int i = 0; i < LINE_MOVES && !ring; i++) {
+                int p = solver.bestAt(at);
+                if (p == NONE) {
+                    return;
+                }
                 go(p);
                 marks[many] = solver.markOf(at);
                 ring = isMarkedAgain();
-                p = solver.bestAt(at);
             }
         }
 
@@ -1559,33 +1584,39 @@ public final class SowingHouse {
 
         void goWhileForced(Scene from) {
             begin(from);
-            int can = sower.choices(at);
-            while (many < LINE_MOVES && Integer.bitCount(can) == 1) {
+            for (int i = 0; i < LINE_MOVES; i++) {
+                int can = sower.choices(at);
+                if (Integer.bitCount(can) != 1) {
+                    return;
+                }
                 go(pick(can, 0));
-                can = sower.choices(at);
             }
         }
 
         void goByDraws(Scene from, int seed, boolean bestForOne) {
             begin(from);
             int x = seed;
-            int can = sower.choices(at);
-            while (many < PLAY_MOVES && can != 0) {
+            for (int i = 0; i < PLAY_MOVES; i++) {
+                int p;
                 if (bestForOne && at.side == 1) {
-                    go(solver.bestAt(at));
+                    p = solver.bestAt(at);
                 } else {
                     x = 1103515245 * x + 12345;
-                    go(pick(can, (x >>> 16) % Integer.bitCount(can)));
+                    p = pick(sower.choices(at), x >>> 16);
                 }
-                can = sower.choices(at);
+                if (p == NONE) {
+                    return;
+                }
+                go(p);
             }
         }
 
-        /** The pit that so many others of these are ahead of. */
-        private static int pick(int can, int ahead) {
-            int left = ahead;
+        /** The pit of these that a draw falls on; NONE: there are none. */
+        private static int pick(int can, int draw) {
+            int many = Integer.bitCount(can);
+            int left = many == 0 ? 0 : draw % many;
             for (int p = 0; p < PITS; p++) {
-                if ((can >>> p & 1) == 1) {
+                if (has(can, p)) {
                     if (left == 0) {
                         return p;
                     }
@@ -1646,7 +1677,7 @@ public final class SowingHouse {
             }
             int sum = 0;
             for (int p = 0; p < PITS; p++) {
-                if ((can >>> p & 1) == 1) {
+                if (has(can, p)) {
                     goDown(depth, p);
                     sum += countRows(depth + 1, moves);
                 }
@@ -1671,7 +1702,7 @@ public final class SowingHouse {
             }
             int can = sower.choices(depths[depth]);
             for (int p = 0; p < PITS; p++) {
-                if ((can >>> p & 1) == 1) {
+                if (has(can, p)) {
                     goDown(depth, p);
                     gather(depth + 1, moves);
                 }
@@ -1727,12 +1758,12 @@ public final class SowingHouse {
         }
 
         private boolean endsWithin(int depth, int moves) {
-            int can = sower.choices(depths[depth]);
             if (depth >= moves || depth >= SOONEST_MOVES) {
-                return can == 0;
+                return sower.isOver(depths[depth]);
             }
+            int can = sower.choices(depths[depth]);
             for (int p = 0; p < PITS; p++) {
-                if ((can >>> p & 1) == 1) {
+                if (has(can, p)) {
                     path[depth] = p;
                     goDown(depth, p);
                     if (endsWithin(depth + 1, moves)) {
