@@ -1629,7 +1629,9 @@ public final class SowingHouse {
 
     /** Goes all ways on from a scene, a few moves deep. */
     private static final class Explorer {
+        /** Six ways to move, four times. */
         private static final int LEAVES = 1296;
+        /** A power of two, as many as the twelve highest bits of a hash can tell. */
         private static final int SLOTS = 4096;
 
         /** The moves that the latest search for an end found. */
@@ -1726,7 +1728,7 @@ public final class SowingHouse {
                 if (leavesA[entry - 1] == a && leavesB[entry - 1] == b) {
                     return;
                 }
-                slot = slot + 1 < SLOTS ? slot + 1 : 0;
+                slot = slot + 1 & SLOTS - 1;
             }
         }
 

@@ -1199,11 +1199,7 @@ public final class ModelTest {
         return s.toString();
     }
 
-    private void board() {
-        String text = boardText();
-        if (text.length() > 480) {
-            text = text.substring(0, 480);
-        }
+    private void feedText(String text) {
         byte[] bytes = (text + " ".repeat(20)).getBytes(StandardCharsets.ISO_8859_1);
         for (int i = 0; i < text.length(); i += 20) {
             Object[] five = new Object[5];
@@ -1217,6 +1213,14 @@ public final class ModelTest {
             both(face("feed"), five);
         }
         told.add("  " + text.replace("\n", "\\n"));
+    }
+
+    private void board() {
+        String text = boardText();
+        if (text.length() > 480) {
+            text = text.substring(0, 480);
+        }
+        feedText(text);
         both(face("board"), upTo(30) == 0 ? upTo(40) - 10 : text.length());
         both(face("fault"), 0);
         both(face("fault"), 1);
@@ -1304,6 +1308,63 @@ public final class ModelTest {
         }
     }
 
+    /** Boards that random ones seldom come near: full ones, those with most positions, lines of just 60 moves. */
+    private static final String[] BOARDS = {
+        "pits 6;lay 3 3 3 3 3 3 3 3 3 3 3 3;",
+        "pits 6;lay 3 3 3 3 3 3 3 3 3 3 3 3;stores;again;take opposite;skip;first 1;",
+        "pits 6;lay 4 4 2 2 1 4 4 4 3 3 3 3;take grand starve;feed;",
+        "pits 6;lay 0 0 0 0 0 1 0 0 0 0 0 2;stores;stored 1 0;take grand;",
+        "pits 6;lay 1 2 1 1 2 1 1 0 1 1 0 1;relay 20;stores;skip;",
+        "pits 4;lay 0 1 0 0 0 2 0 3;feed;",
+        "pits 4;lay 2 2 2 0 0 0 0 0;feed;relay 17;",
+        "pits 3;lay 4 2 0 2 0 1;skip;feed;relay 14;",
+        "pits 2;lay 4 4 5 4;take grand;feed;first 1;",
+        "pits 2;lay 11 9 11;lacking 3;take opposite;relay 20;",
+        "pits 2;lay 0 14 10 7;lacking 0;stores;again;first 1;",
+        "pits 1;lay 20 20;stores;again;take opposite;",
+        "pits 5;lay 1 1 0 1 1 1 0 0 1;lacking 9;take grand;feed;",
+        "pits 6;lay 1 1 0 1 1 0 1;lacking 11;take opposite;stores;first 1;",
+        "pits 6;lay 0 1 0 0 1 0 1 1;take grand;feed;",
+        "pits 1;lacking 0;lacking 1;stores;stored 3 1;",
+    };
+
+    private void goOver(String text) {
+        feedText(text);
+        both(face("board"), text.length());
+        for (String name : List.of("over", "score", "place", "value", "rank", "best", "swapped", "forced")) {
+            both(face(name));
+        }
+        for (int k = -4; k < 62; k++) {
+            for (String name : List.of("line", "plays", "reached", "soonest", "pits", "may", "worth")) {
+                if (k < 12 || name.equals("line")) {
+                    both(face(name), k);
+                }
+            }
+        }
+        for (int seed = 0; seed < 6; seed++) {
+            for (int what = 0; what < 3; what++) {
+                both(face("play"), seed * 77777, what);
+                both(face("against"), seed * 77777, what);
+            }
+        }
+        for (int side = 0; side < 2; side++) {
+            for (int s = 0; s <= Math.min(40, model.now.seeds() + 1); s++) {
+                both(face("positions"), side, s);
+                for (int what = 0; what < 7; what++) {
+                    both(face("tally"), side, s, what);
+                    both(face("most"), side, s, what);
+                    both(face("find"), side, s, what - 3, what * s);
+                }
+                for (int k = 0; k < 3100; k += 1 + random.nextInt(400)) {
+                    both(face("valueOf"), side, s, k);
+                    both(face("ofPlace"), side, s, k, k % 13);
+                    both(face("row"), side, s, k, k % 5);
+                    both(face("row"), side, s, k, 10 + k % 7);
+                }
+            }
+        }
+    }
+
     public static void main(String[] args) throws Exception {
         int first = args.length > 0 ? Integer.parseInt(args[0]) : 1;
         int runs = args.length > 1 ? Integer.parseInt(args[1]) : 400;
@@ -1315,13 +1376,18 @@ public final class ModelTest {
         }
         FACE.sort((a, b) -> a.getName().compareTo(b.getName()));
         int calls = 0;
+        for (int i = 0; i < BOARDS.length; i++) {
+            ModelTest test = new ModelTest(-1 - i);
+            test.goOver(BOARDS[i]);
+            calls += test.told.size();
+        }
         for (int run = first; run < first + runs; run++) {
             ModelTest test = new ModelTest(run);
             test.go(150);
             calls += test.told.size();
             Model.SOLVED.clear();
         }
-        System.out.println(runs + " runs, " + calls + " calls, " + wrong + " wrong");
+        System.out.println(BOARDS.length + " boards, " + runs + " runs, " + calls + " calls, " + wrong + " wrong");
         if (wrong > 0 || FACE.size() != 42) {
             System.exit(1);
         }

@@ -162,6 +162,12 @@ public final class PromiseTest {
         dueFault("lay 1000;", 1, 4);
         dueFault("lay 1 12345 x", 1, 6);
         dueFault("pits 2; 0001", 1, 8);
+        for (char sign : new char[] {'`', '{', '/', ':', 'A', 'Z', '-', ',', 0, 9, 13, 127, 128, 255}) {
+            dueFault("pits 2;" + sign, 1, 7);
+        }
+        for (String word : new String[] {"xits 2;", "ray 1;", "pitt 2;", "a;", "z;", "zz;", "skips;", "stor;", "storey;"}) {
+            dueFault("skip;" + word, 2, 5);
+        }
         dueFault("pits", 2, 4);
         dueFault("pits 2", 2, 6);
         dueFault("pits 2  ", 2, 8);
@@ -196,6 +202,8 @@ public final class PromiseTest {
         dueFault("pits 1;lay 0 0 0 0;", 4, 15);
         dueFault("pits 1;lay 0 0 21;", 3, 15);
         dueFault("lay 0 0 0 0 0 0 0#", 4, 16);
+        dueFault("pits 6;lay 0 0 0 0 0 0 0 0 0 0 0 0 0;", 4, 35);
+        dueFault("pits 6;lay 0 0 0 0 0 0 0 0 0 0 0 0;", 0, -1);
         dueFault("lay 1;lacking 0; ", 5, 17);
         dueFault("lay 20 20 1;", 5, 12);
         dueFault("lacking 0;lay 1;lay 0;", 0, -1);
@@ -293,6 +301,10 @@ public final class PromiseTest {
         due("starve", x.move(2), 0);
         x = house("pits 3;lay 0 0 2 2 1 1;take grand starve;");
         due("one is left", x.move(2), 5);
+        x = house("pits 6;lay 0 0 0 0 0 1 0 0 0 0 0 2;stores;stored 1 0;take grand;");
+        due("a store is no pit to be taken", x.move(5), 1);
+        due("2 in the store", x.store(0), 2);
+        due("2 in the pit", x.pit(11), 2);
         x = house("pits 2;lay 2 1 1 1;stores;again;");
         due("ends in the store", x.move(1), 1);
         due("moves again", x.mover(), 0);
@@ -570,6 +582,14 @@ public final class PromiseTest {
         x = house("pits 1;lay 1 1;");
         due("ring", x.line(-2), 1);
         due("ring of 2", x.line(-1), 2);
+        x = house("pits 4;lay 0 1 0 0 0 2 0 3;feed;");
+        due("60 at most", x.line(-1), 60);
+        due("no ring till then", x.line(-2), 0);
+        due("the 60th", x.line(59) >= 0, true);
+        due("no 61st", x.line(60), -1);
+        x = house("pits 4;lay 2 2 2 0 0 0 0 0;feed;relay 17;");
+        due("60 with the ring", x.line(-1), 60);
+        due("a ring at last", x.line(-2), 1);
         SowingHouse y = house("pits 6;lay 5;");
         dueThrow("line(-4)", ARGUMENT, () -> y.line(-4));
         dueThrow("line spent", STATE, () -> y.line(-3));
@@ -607,6 +627,14 @@ public final class PromiseTest {
         w.move(1);
         due("soonest then", w.soonest(-1), 1);
         due("soonest(0) then", w.soonest(0), 2);
+        read(w, "pits 2;lay 0 1;");
+        due("soonest of a board", w.soonest(-1), 2);
+        read(w, "pits 2;lay 1 1;");
+        due("one more in the first pit: 0, then the other has none", w.soonest(-1), 1);
+        read(w, "pits 2;");
+        due("soonest of an empty one", w.soonest(-1), 0);
+        read(w, "pits 2;lay 0 1;stores;");
+        due("other rules", w.soonest(-1), 1);
         due("never", house("pits 1;lay 1 1;").soonest(-1), -1);
         SowingHouse six = house("pits 6;lay 1;feed;");
         due("one seed along: 0 to 5, but the other has none", six.soonest(-1), 1);
@@ -731,6 +759,12 @@ public final class PromiseTest {
         x.undo();
         due("new trays are of 0s", x.perform(0), 1);
         due("from pit 0", x.pit(0), 0);
+        x.tray(0, 0, 2);
+        x.write(0, 1, 9);
+        due("pour one", x.pour(0), 1);
+        x.undo();
+        due("the second stays", x.judge(0, 0), 1);
+        due("it is no pit", x.judge(0, 1), 1);
         x.tray(2, 2, 0);
         due("no places", x.pour(2), 0);
         dueThrow("no place", BOUNDS, () -> x.write(2, 0, 1));
