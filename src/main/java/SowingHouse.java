@@ -796,10 +796,8 @@ public final class SowingHouse {
             rules.perSide = readNumber(1, OWN_PITS);
         }
 
+        /** Pits that this line doesn't tell keep what an earlier one told: what is told last strikes pit by pit. */
         private void readSeeds() {
-            for (int p = 0; p < PITS; p++) {
-                scene.cells[p] = 0;
-            }
             step();
             int p = 0;
             do {

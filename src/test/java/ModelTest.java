@@ -167,14 +167,14 @@ public final class ModelTest {
                         r.n = number(rest, 1, 6);
                     }
                     case "lay" -> {
-                        lay.clear();
+                        int pit = 0;
                         do {
                             int place = rest.get(0).place;
                             int x = number(rest, 0, 20);
-                            if (lay.size() == 2 * r.n) {
+                            if (pit == 2 * r.n) {
                                 throw new Fault(4, place);
                             }
-                            lay.put(lay.size(), x);
+                            lay.put(pit++, x);
                         } while (rest.get(0).kind == 'n');
                     }
                     case "stored" -> {
@@ -1142,6 +1142,9 @@ public final class ModelTest {
         }
         if (upTo(12) > 0) {
             lines.add(lay.toString());
+        }
+        if (upTo(3) == 0) {
+            lines.add("lay" + (" " + upTo(most)).repeat(1 + upTo(2 * n - 1)));
         }
         for (String flag : List.of("stores", "skip", "again", "feed")) {
             if (upTo(1) == 0) {

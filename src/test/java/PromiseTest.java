@@ -146,13 +146,20 @@ public final class PromiseTest {
         due("blanks at the end", x.board(20), 1);
         due("tape is empty then", x.count(6), 0);
         due("what is told last strikes", read(x, "lay 1 2 3;lay 4;take grand;take none;relay 3;relay 1;first 1;first 0;stored 1 2;stored 3 4;"), 10);
-        duePits("later lay", x, 4, 0, 0, 0, 0, 0);
+        duePits("later lay", x, 4, 2, 3, 0, 0, 0);
         due("later stored", x.store(0) * 100 + x.store(1), 304);
         due("later first", x.mover(), 0);
         due("no blanks", read(x, "pits1;lay20 20;first1;"), 3);
         due("seeds", x.count(2), 40);
         due("many blanks", read(x, "\n  pits  2 ;\n\nlay 001 ;  lacking 3;lacking 3 ; lacking 0;lay 0 1;"), 6);
         due("lacking", x.count(3), 2);
+        due("three lays", read(x, "pits 2;lay 1 2;stores;lay 3 4 5 6;lay 7 0;"), 5);
+        duePits("pit by pit, also a 0", x, 7, 0, 5, 6);
+        due("the same lines in another order", read(x, "pits 2;lay 7 0;stores;lay 3 4 5 6;lay 1 2;"), 5);
+        duePits("pit by pit, in another order", x, 1, 2, 5, 6);
+        due("a faulty board between", read(x, "pits 2;lay 9 9 9 9;lay 21;"), -13);
+        due("a board anew", read(x, "pits 2;lay 8;"), 2);
+        duePits("no lay of another board is kept", x, 8, 0, 0, 0);
     }
 
     private static void promise4() {
@@ -207,6 +214,10 @@ public final class PromiseTest {
         dueFault("lay 1;lacking 0; ", 5, 17);
         dueFault("lay 20 20 1;", 5, 12);
         dueFault("lacking 0;lay 1;lay 0;", 0, -1);
+        dueFault("lacking 1;lay 0 1;lay 0;", 5, 24);
+        dueFault("lay 20 20 20;lay 0;", 0, -1);
+        dueFault("lay 20 20;lay 0 0 1;lay 20 20;", 5, 30);
+        dueFault("lay 1 1 1 1 1 1;lay 1 1 1 1 1 1 1;", 4, 32);
         dueFault("lay 20 20;", 0, -1);
         dueFault("pits 6;stored 99 99;relay 20;lacking 11;", 0, -1);
         SowingHouse x = house("pits 1;");
