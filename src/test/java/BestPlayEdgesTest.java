@@ -246,6 +246,57 @@ public final class BestPlayEdgesTest {
         Due.due("the last pit", Due.house("pits 6;lay 0 0 0 0 0 0 0 0 0 0 0 1;first 1;").best(), 11);
     }
 
+    /** What some calls tell of best play; they all depend on the rules. */
+    private static String toldBy(SowingHouse x) {
+        StringBuilder all = new StringBuilder();
+        all.append(x.value()).append(' ').append(x.rank()).append(' ').append(x.best()).append(' ').append(x.swapped());
+        for (int what = 0; what < 6; what++) {
+            all.append(' ').append(x.most(what % 2, 3, what));
+        }
+        return all.append(' ').append(x.tally(0, 3, 0)).append(' ').append(x.tally(1, 3, 1)).append(' ').append(x.soonest(-1))
+                .append(' ').append(x.soonest(0)).toString();
+    }
+
+    /** All kinds of rules, each behind each other one, on objects that have solved the other ones. */
+    private static void otherRules() {
+        Due.says(20, "VALUE now");
+        List<String> texts = new ArrayList<>();
+        for (int kinds = 0; kinds < 16; kinds++) {
+            String flags = ((kinds & 1) == 0 ? "" : "stores;") + ((kinds & 2) == 0 ? "" : "skip;")
+                    + ((kinds & 4) == 0 ? "" : "again;") + ((kinds & 8) == 0 ? "" : "feed;");
+            for (String more : new String[] {"", "take opposite;", "take grand;", "take grand starve;", "relay 1;", "relay 2;", "relay 4;"}) {
+                texts.add("pits 2;lay 1 1 0 1;" + flags + more);
+            }
+        }
+        for (String more : new String[] {"lacking 2;", "lacking 2;relay 1;", "lacking 2;relay 16;"}) {
+            texts.add("pits 2;lay 1 1 0 1;" + more);
+        }
+        for (String more : new String[] {"", "relay 1;", "relay 17;"}) {
+            texts.add("pits 1;lay 2 1;" + more);
+        }
+        texts.add("pits 5;lay 0 1 0 0 1 0 1;");
+        texts.add("pits 5;lay 0 1 0 0 1 0 1;lacking 0;");
+        texts.add("pits 3;lay 1 0 1 0 0 1;");
+        texts.add("pits 3;lay 1 0 1 0 0 1;lacking 1;");
+        List<String> alone = new ArrayList<>();
+        for (String text : texts) {
+            alone.add(toldBy(Due.house(text)));
+        }
+        for (int i = 0; i < texts.size(); i++) {
+            SowingHouse x = Due.house(texts.get(i));
+            for (int j = 0; j < texts.size(); j++) {
+                if (j % 8 == 0) {
+                    x = Due.house(texts.get(i));
+                }
+                Due.read(x, texts.get(i));
+                x.value();
+                x.soonest(-1);
+                Due.read(x, texts.get(j));
+                Due.due(texts.get(j) + " behind " + texts.get(i), toldBy(x).equals(alone.get(j)), true);
+            }
+        }
+    }
+
     private static void bestOfSeveral() {
         Due.says(22, "of those MOVES whose WORTH is the VALUE those by which the RANK of what comes of it is least (0 if seeds left the PITS), of these the first.");
         SowingHouse x = Due.house("pits 2;lay 2 1;take opposite;");
@@ -256,6 +307,10 @@ public final class BestPlayEdgesTest {
         Due.due("seeds stay", y.worth(0), 1);
         Due.due("a seed leaves", y.worth(2), 1);
         Due.due("the second, as seeds leave", y.best(), 2);
+        SowingHouse one = Due.house("pits 2;lay 1 1 0 1;stores;take opposite;again;");
+        Due.due("seeds stay, and rank 1 is behind", one.worth(0), 1);
+        Due.due("a seed leaves: 0", one.worth(1), 1);
+        Due.due("0 is less than 1", one.best(), 1);
         SowingHouse deep = Due.house("pits 3;lay 1 1 1 1;stores;");
         Due.due("seeds leave, whatever the rank there is", deep.best(), 2);
         SowingHouse z = Due.house("pits 2;lay 1 1 0 0;stores;");
@@ -497,6 +552,16 @@ public final class BestPlayEdgesTest {
         dueLine("pits 1;lay 1;", 1, 0, new int[] {0, 1});
         dueLine("pits 1;lay 1 1;skip;", 1, 0, new int[] {0, 1, 0});
         dueLine("pits 1;lay 1 1;skip;first 1;", 1, 0, new int[] {1, 0, 1});
+        for (String lay : new String[] {"pits 2;lay 3 3 3 3;", "pits 2;lay 4 3 2 1;first 1;", "pits 3;lay 1 1 1 1 1 1;",
+            "pits 3;lay 2 1 0 0 1 2;", "pits 1;lay 7 9;", "pits 2;lay 3 0 4 2;lacking 1;"}) {
+            for (String rules : new String[] {"", "stores;", "stores;again;take opposite;", "take grand;feed;", "stores;skip;relay 4;"}) {
+                dueLineByMoves(lay + rules);
+            }
+        }
+        for (String text : new String[] {"pits 2;lay 2 0 1;stores;feed;", "pits 1;lay 2;stores;take grand;again;",
+            "pits 2;lay 0 2 1 1;stores;feed;again;", "pits 3;lay 1 1 2 1 2 1;stores;"}) {
+            dueLineByMoves(text);
+        }
         SowingHouse full = Due.house("pits 4;lay 0 1 0 0 0 2 0 3;feed;");
         Due.due("60 and no ring", full.line(-1) * 10 + full.line(-2), 600);
         Due.due("the 60th", full.line(59) >= 0, true);
@@ -529,6 +594,26 @@ public final class BestPlayEdgesTest {
         Due.due("solved", Due.house("pits 6;lay 4;").line(-1) > 0, true);
     }
 
+    /** THE LINE as best() and move() alone go along it. */
+    private static void dueLineByMoves(String text) {
+        SowingHouse x = Due.house(text);
+        SowingHouse by = Due.house(text);
+        List<String> seen = new ArrayList<>();
+        boolean ring = false;
+        int made = 0;
+        while (made < 60 && !ring && by.best() != -1) {
+            seen.add(by.count(2) + "/" + by.place() + "/" + by.mover());
+            Due.due("move " + made + ", " + text, x.line(made), by.best());
+            by.move(by.best());
+            made++;
+            ring = seen.contains(by.count(2) + "/" + by.place() + "/" + by.mover());
+        }
+        Due.due("how many, " + text, x.line(-1), made);
+        Due.due("ring, " + text, x.line(-2), ring ? 1 : 0);
+        Due.due("score, " + text, x.line(-3), by.score());
+        Due.due("no more, " + text, x.line(made), -1);
+    }
+
     private static void dueLine(String text, int ring, int score, int[] pits) {
         SowingHouse x = Due.house(text);
         Due.due("how many, " + text, x.line(-1), pits.length);
@@ -546,6 +631,7 @@ public final class BestPlayEdgesTest {
         ofPlace();
         whatIsSolved();
         values();
+        otherRules();
         bestOfSeveral();
         worths();
         apart();

@@ -122,6 +122,12 @@ public final class BoardEdgesTest {
         Due.due("a text cut in a word", cutOff.board(22), -12);
         Due.due("its word", cutOff.fault(1), 19);
         Due.due("the tape is empty behind a fault, too", cutOff.count(6), 0);
+        SowingHouse cutNumber = new SowingHouse();
+        Due.tape(cutNumber, "lay 1 21;");
+        Due.due("a text cut in a number", cutNumber.board(7), -12);
+        Due.due("its end", cutNumber.fault(1), 7);
+        Due.tape(cutNumber, "lay 1 2;#");
+        Due.due("a text cut ahead of a fault", cutNumber.board(8), 1);
 
         Due.says(3, "A BOARD is a TEXT of at most 500 bytes");
         SowingHouse long500 = new SowingHouse();
@@ -131,6 +137,10 @@ public final class BoardEdgesTest {
         Due.tape(open500, " ".repeat(496) + "skip");
         Due.due("500 bytes, the last sign is lacking", open500.board(500), -12);
         Due.due("the end is at 500", open500.fault(1), 500);
+        SowingHouse number500 = new SowingHouse();
+        Due.tape(number500, " ".repeat(495) + "lay 1");
+        Due.due("500 bytes, a number is the last", number500.board(500), -12);
+        Due.due("the end is at 500", number500.fault(1), 500);
 
         Due.says(3, "IllegalArgumentException: n is below 0 or above what it has.");
         for (int n : new int[] {-1, 21, Integer.MIN_VALUE, Integer.MAX_VALUE}) {
@@ -151,6 +161,27 @@ public final class BoardEdgesTest {
             Due.due("board of '" + texts[i] + "'", Due.read(new SowingHouse(), texts[i]), lines[i]);
         }
         Due.due("a hundred", Due.read(new SowingHouse(), "skip;".repeat(100)), 100);
+
+        Due.says(3, "are the BOARD");
+        String all = "pits 2;lay 1 2;lacking 3;stored 5 6;stores;skip;again;feed;relay 1;take grand starve;first 1;";
+        for (String faulty : new String[] {"", "stores;skip;again;feed;relay 1;take opposite;lacking 0;first 1;lay 7;stored 9 9;#"}) {
+            SowingHouse x = Due.house(all);
+            Due.read(x, faulty);
+            Due.read(x, "pits 2;lay 2 5 1 1;");
+            Due.due("lines, nothing is lacking", x.count(0) * 10 + x.count(3), 20);
+            Due.due("nothing is stored", x.store(0) + x.store(1), 0);
+            Due.due("side 0 is first", x.mover(), 0);
+            Due.due("no store is sown, no pit is passed by", x.sown(1, 0), 2);
+            Due.due("nothing is taken", x.sown(1, 2), 0);
+            Due.due("no rounds", x.sown(1, 1), 0);
+            Due.read(x, "pits 2;lay 1 1;");
+            Due.due("nobody must be fed", x.may(0), 0);
+            Due.read(x, "pits 2;lay 0 1;stores;");
+            x.move(1);
+            Due.due("nobody moves again", x.mover(), 1);
+            Due.read(x, "");
+            Due.duePits("a board without a text", x, 0, 0, 0, 0, 0, 0);
+        }
 
         Due.says(3, "nothing can be undone then");
         for (String text : new String[] {"", "pits 2;lay 1 1 1 1;"}) {
@@ -258,6 +289,16 @@ public final class BoardEdgesTest {
         dueFault("pits 002;lay 020 0 00 000;", 0, -1);
         Due.duePits("leading zeros", Due.house("pits 002;lay 020 0 00 003;"), 20, 0, 0, 3);
         dueFault("lay 1 2;stored99 99;lacking5;", 0, -1);
+        for (String line : new String[] {"pits 1", "lay 1", "stored 1 1", "lacking 1", "first 1", "stores", "skip", "relay 1",
+            "take none", "take opposite", "take grand", "take grand starve", "again", "feed"}) {
+            dueFault(line + ";", 0, -1);
+            for (int i = 0; i < line.length(); i++) {
+                if (Character.isLetter(line.charAt(i))) {
+                    String other = line.substring(0, i) + (line.charAt(i) == 'q' ? 'p' : 'q') + line.substring(i + 1);
+                    dueFault(other + ";", 2, line.lastIndexOf(' ', i) + 1);
+                }
+            }
+        }
         dueFault("takegrand;", 2, 0);
         dueFault("take grandstarve;", 2, 5);
         dueFault("pi ts 2;", 2, 0);

@@ -1082,9 +1082,13 @@ public final class ModelTest {
     private static final Map<Method, Method> TWIN = new HashMap<>();
     private static int wrong = 0;
 
+    /** What an object answers behind its 512th call is free. */
+    private static final int CALLS = 512;
+
     private final Random random;
-    private final SowingHouse house = new SowingHouse();
-    private final Model model = new Model();
+    private SowingHouse house = new SowingHouse();
+    private Model model = new Model();
+    private int made = 0;
     private final List<String> told = new ArrayList<>();
     private final int run;
 
@@ -1104,6 +1108,7 @@ public final class ModelTest {
     }
 
     private String both(Method m, Object... args) {
+        made++;
         String got = answer(house, m, args);
         String due = answer(model, TWIN.get(m), args);
         told.add(m.getName() + Arrays.toString(args) + " = " + got);
@@ -1290,7 +1295,7 @@ public final class ModelTest {
 
     private void go(int calls) {
         board();
-        for (int i = 0; i < calls; i++) {
+        for (int i = 0; i < calls && made < CALLS - 40; i++) {
             int what = upTo(60);
             if (what == 0) {
                 board();
@@ -1331,13 +1336,25 @@ public final class ModelTest {
         "pits 1;lacking 0;lacking 1;stores;stored 3 1;",
     };
 
+    /** A new object with the same board, before the calls of this one run out. */
+    private void renew(String text) {
+        if (made == 0 || made > CALLS - 60) {
+            house = new SowingHouse();
+            model = new Model();
+            made = 0;
+            told.add("new");
+            feedText(text);
+            both(face("board"), text.length());
+        }
+    }
+
     private void goOver(String text) {
-        feedText(text);
-        both(face("board"), text.length());
+        renew(text);
         for (String name : List.of("over", "score", "place", "value", "rank", "best", "swapped", "forced")) {
             both(face(name));
         }
         for (int k = -4; k < 62; k++) {
+            renew(text);
             for (String name : List.of("line", "plays", "reached", "soonest", "pits", "may", "worth")) {
                 if (k < 12 || name.equals("line")) {
                     both(face(name), k);
@@ -1345,6 +1362,7 @@ public final class ModelTest {
             }
         }
         for (int seed = 0; seed < 6; seed++) {
+            renew(text);
             for (int what = 0; what < 3; what++) {
                 both(face("play"), seed * 77777, what);
                 both(face("against"), seed * 77777, what);
@@ -1352,6 +1370,7 @@ public final class ModelTest {
         }
         for (int side = 0; side < 2; side++) {
             for (int s = 0; s <= Math.min(40, model.now.seeds() + 1); s++) {
+                renew(text);
                 both(face("positions"), side, s);
                 for (int what = 0; what < 7; what++) {
                     both(face("tally"), side, s, what);
@@ -1359,6 +1378,7 @@ public final class ModelTest {
                     both(face("find"), side, s, what - 3, what * s);
                 }
                 for (int k = 0; k < 3100; k += 1 + random.nextInt(400)) {
+                    renew(text);
                     both(face("valueOf"), side, s, k);
                     both(face("ofPlace"), side, s, k, k % 13);
                     both(face("row"), side, s, k, k % 5);

@@ -62,6 +62,23 @@ public final class MoveEdgesTest {
         SowingHouse x = Due.house("pits 2;lay 1 2 2 2;relay 1;");
         Due.due("the other one can be", x.may(0), 0);
         Due.due("long", x.may(1), 3);
+        SowingHouse y = Due.house("pits 2;lay 2 2 1 2;relay 1;first 1;");
+        Due.due("the other one of side 1 can be", y.may(2), 0);
+        Due.due("long, of side 1", y.may(3), 3);
+
+        Due.says(8, "relay: if that is a PIT that had seeds ahead of it, all in it are taken up and sown on likewise from there (a ROUND), again and again");
+        for (int side = 0; side < 2; side++) {
+            String last = side == 0 ? "pits 2;lay 0 1 0 0;" : "pits 2;lay 0 0 0 1;first 1;";
+            SowingHouse store = Due.house(last + "stores;stored 5 5;relay 1;");
+            int p = 2 * side + 1;
+            Due.due("last is a store that had seeds", store.may(p), 0);
+            Due.due("no round", store.sown(p, 1), 0);
+            store.move(p);
+            Due.due("it has one more", store.store(side), 6);
+        }
+        Due.due("a pit that had none", Due.house("pits 2;lay 1;relay 1;").sown(0, 1), 0);
+        Due.due("a pit that had one", Due.house("pits 2;lay 1 1;relay 1;").sown(0, 1), 1);
+        Due.due("the pit itself had none, as all were taken up", Due.house("pits 1;lay 2;relay 1;").sown(0, 1), 0);
     }
 
     private static void whoMustBeFed() {
@@ -88,6 +105,9 @@ public final class MoveEdgesTest {
         SowingHouse one = Due.house("pits 2;lay 0 0 1 1;feed;first 1;");
         Due.due("side 1 must feed", one.may(2), 4);
         Due.due("side 1 feeds", one.may(3), 0);
+        SowingHouse relayed = Due.house("pits 3;lay 0 0 0 1 0 7;relay 3;feed;first 1;");
+        Due.due("side 1 must feed by a relay", relayed.may(3), 4);
+        Due.due("side 1 feeds by a relay", relayed.may(5), 0);
         SowingHouse again = Due.house("pits 2;lay 2 1;stores;again;feed;");
         Due.due("who moves again isn't asked", again.may(0) + again.may(1), 0);
     }
@@ -157,6 +177,10 @@ public final class MoveEdgesTest {
         dueMove("pits 2;lay 0 5 1 0;take opposite;first 1;", 2, 0, 0, 5, 0, 1);
         dueMove("pits 2;lay 5 0 1 0;take opposite;first 1;", 2, 6, 0, 0, 0, 0);
         dueMove("pits 2;lay 3 0 5;stores;take opposite;", 0, 1, 0, 1, 6, 0);
+        for (String take : new String[] {"", "take none;", "take opposite;"}) {
+            dueTaken("pits 2;lay 0 1 1;" + take, 1, 0);
+            dueTaken("pits 2;lay 0 1 0 5;stores;" + take, 1, 0);
+        }
 
         Due.says(9, "OPPOSITE to PIT p is 2 n less 1 less p.");
         for (int n = 2; n <= 6; n++) {
@@ -188,6 +212,12 @@ public final class MoveEdgesTest {
         dueMove("pits 3;lay 0 0 2 2 0 1;lacking 4;take grand;", 2, 5, 0, 0, 0, 0, -1, 0);
         dueMove("pits 2;lay 1 2 0 2;take grand;first 1;", 3, 5, 0, 0, 0, 0);
         dueMove("pits 2;lay 2 1 0 1;take grand;first 1;", 3, 3, 0, 1, 0, 0);
+        for (int stored = 0; stored <= 4; stored++) {
+            dueMove("pits 2;lay 0 1 0 2;stores;stored " + stored + " 0;take grand;", 1, 1, 0, 0, 0, 2);
+            dueMove("pits 2;lay 0 2 0 1;stores;stored 0 " + stored + ";first 1;take grand;", 3, 1, 0, 2, 0, 0);
+            dueTaken("pits 2;lay 0 1 0 2;stores;stored " + stored + " 0;take grand;", 1, 0);
+            dueTaken("pits 6;lay 0 0 0 0 0 1 0 0 0 0 0 2;stores;stored " + stored + " 0;take grand;", 5, 0);
+        }
         dueMove("pits 6;lay 0 0 0 0 0 6 1 1 1 1 1 1;take grand;", 5, 12, 0, 0, 0, 0, 0, 0, 0, 0, 0, 0, 0, 0);
 
         Due.says(9, "starve: nothing, if all the other SIDE has in PITS would be taken.");
@@ -197,6 +227,9 @@ public final class MoveEdgesTest {
         dueMove("pits 2;lay 0 1 1 1;take grand starve;", 1, 2, 0, 0, 0, 1);
         dueMove("pits 2;lay 0 1 1;take grand starve;", 1, 0, 0, 0, 2, 0);
         dueMove("pits 2;lay 1 1 0 2;take grand starve;first 1;", 3, 0, 2, 2, 0, 0);
+        dueTaken("pits 2;lay 0 2 1 1;take grand starve;", 1, 0);
+        dueTaken("pits 2;lay 0 1 0 1;take grand starve;", 1, 0);
+        dueTaken("pits 2;lay 0 1 1 1;take grand starve;", 1, 2);
     }
 
     private static void movesAndRefusals() {

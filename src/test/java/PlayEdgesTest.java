@@ -44,6 +44,14 @@ public final class PlayEdgesTest {
         dueGathered("pits 3;lay 2 2 2 2 2 2;stores;again;take opposite;stored 98 99;");
         Due.dueOnly("nothing stays", Due.busyHouse(RING), x -> x.reached(4), 1);
 
+        SowingHouse twice = Due.house("pits 6;lay 3 2 5 1 5 5 6 2 1 1 3 6;");
+        int first = twice.reached(4);
+        Due.due("asked twice", twice.reached(4), first);
+        twice.move(0);
+        Due.due("another position", twice.reached(4) != first, true);
+        twice.undo();
+        Due.due("asked behind another one", twice.reached(4), first);
+
         Due.says(32, "IllegalArgumentException: d is not 0 to 4.");
         for (int d : new int[] {-1, 5, Integer.MIN_VALUE, Integer.MAX_VALUE}) {
             Due.refused(Due.ARGUMENT, "reached(" + d + ")", FOUR, x -> x.reached(d));
@@ -113,6 +121,24 @@ public final class PlayEdgesTest {
         Due.due("six", seven.soonest(-1), 6);
         seven.undo();
         Due.due("seven again", seven.soonest(-1), -1);
+        SowingHouse like = Due.house("pits 2;lay 1 1 1 1;");
+        int before = like.soonest(-1);
+        like.move(like.soonest(0));
+        Due.due("behind the first of them", like.soonest(-1), before - 1);
+        like.undo();
+        Due.due("undone", like.soonest(-1), before);
+        SowingHouse boards = Due.house("pits 2;lay 0 1;");
+        Due.due("0 1", boards.soonest(-1), 2);
+        Due.read(boards, "pits 2;lay 1 1;");
+        Due.due("1 1", boards.soonest(-1), 1);
+        Due.read(boards, "pits 2;lay 0 1;");
+        Due.due("0 1 again", boards.soonest(-1), 2);
+        Due.read(boards, "pits 2;");
+        Due.due("no seeds", boards.soonest(-1), 0);
+        SowingHouse side = Due.house("pits 2;lay 1 0 0 1;");
+        Due.due("side 0", side.soonest(0), 0);
+        Due.read(side, "pits 2;lay 1 0 0 1;first 1;");
+        Due.due("side 1", side.soonest(0), 3);
         Due.due("never", Due.house(RING).soonest(-1), -1);
         Due.due("never, the first", Due.house(RING).soonest(0), -1);
         SowingHouse two = Due.house("pits 2;lay 0 1;");
