@@ -23,6 +23,7 @@ final class Due {
         long of(SowingHouse x);
     }
 
+    private static final String TAPED = "lay 1 2 3;";
     private static final String DOCUMENT = document();
     private static final Set<Integer> PROMISES = new TreeSet<>();
     private static int promise;
@@ -128,7 +129,29 @@ final class Due {
 
     /** The same on a new object with this board, a tape, a fault, a tray and an image that must stay. */
     static void refused(Class<?> want, String call, String text, Call it) {
-        refused(want, call, busyHouse(text), it);
+        SowingHouse x = busyHouse(text);
+        refused(want, call, x, it);
+        dueKept(call, x, text);
+    }
+
+    /** What a busy house has on its tape and in its images; it is at an end then. */
+    private static void dueKept(String call, SowingHouse x, String text) {
+        due(call + ": the tape is read", x.board(TAPED.length()), 1);
+        duePits(call + ": the tape", x, 1, 2, 3, 0, 0, 0);
+        for (int i = 0; i < 2; i++) {
+            due(call + ": image " + i, hasImage(x, i), false);
+        }
+        due(call + ": image 2", hasImage(x, 2), true);
+        dueSame(call + ": image 2", board(house(text)), board(x));
+    }
+
+    private static boolean hasImage(SowingHouse x, int i) {
+        try {
+            x.restore(i);
+            return true;
+        } catch (IllegalStateException e) {
+            return false;
+        }
     }
 
     private static void dueSame(String call, String before, String after) {
@@ -173,7 +196,7 @@ final class Due {
         SowingHouse x = house(text);
         x.image(2);
         read(x, "pits 0;");
-        tape(x, "lay 1 2 3;");
+        tape(x, TAPED);
         x.tray(3, 2, 3);
         x.write(3, 1, x.count(1));
         return x;

@@ -51,11 +51,21 @@ public final class PlayEdgesTest {
         Due.due("another position", twice.reached(4) != first, true);
         twice.undo();
         Due.due("asked behind another one", twice.reached(4), first);
+        dueTwice("pits 6;lay 4 5 2 4 0 4 3 1 2 5 2 3;stores;take opposite;", 595);
+        dueTwice("pits 6;lay 0 5 5 0 1 5 5 4 0 1 3 0;stores;take opposite;", 291);
 
         Due.says(32, "IllegalArgumentException: d is not 0 to 4.");
         for (int d : new int[] {-1, 5, Integer.MIN_VALUE, Integer.MAX_VALUE}) {
             Due.refused(Due.ARGUMENT, "reached(" + d + ")", FOUR, x -> x.reached(d));
         }
+    }
+
+    /** What was gathered for an earlier answer must not count as gathered for this one. */
+    private static void dueTwice(String text, int want) {
+        dueGathered(text);
+        SowingHouse x = Due.house(text);
+        Due.due("first", x.reached(4), want);
+        Due.due("second", x.reached(4), want);
     }
 
     private interface Counted {
